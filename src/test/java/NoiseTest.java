@@ -120,6 +120,9 @@ public final class NoiseTest {
         Due.is("of two that bear", Due.told("cock 1 1;cock 1 1;").towers(), 5);
         Due.is("one bears", Due.told("cock 1 1;cock 2 1;").towers(), 4);
         Due.is("all of five", Due.told("ass 1 1;ass 1 1;ass 1 1;ass 1 1;ass 1 1;").towers(), 326);
+        TownBand x = Due.told("cock 1 1;cock 1 1;");
+        x.towers();
+        Due.is("asked again", x.towers(), 5);
         // three cocks of 1: none bears two
         Due.is("at most two", Due.told("cock 1 1;cock 1 1;cock 1 1;").towers(), 10);
     }

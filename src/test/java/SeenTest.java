@@ -101,6 +101,16 @@ public final class SeenTest {
         Due.is("of no beasts", new TownBand().ask(1), Due.NONE);
         TownBand alike = Due.told("cat 1 1;cat 2 2;cat 3 3;");
         Due.is("all hurt alike", alike.ask(0), Due.NONE);
+        TownBand five = Due.told("ass 1 1;ass 1 1;ass 1 1;ass 1 1;ass 1 1;");
+        Due.is("five alike", five.ask(0), Due.NONE);
+        five.alter(4, 0, 0);
+        // the cock lies behind 1 by 24 of 120, behind 2 by 48, behind 3 by 72
+        Due.is("of five", five.ask(0), 2);
+        Due.is("of five 1", five.ask(1), 72);
+        five.see(5, 29);
+        Due.is("all of five fit", five.fits(0), 120);
+        Due.is("the last bed", five.fits(14), 31);
+        Due.is("the last bed's first", five.fits(24), 4);
         TownBand two = Due.told("cat 1 1;ass 2 2;");
         Due.is("of two", two.ask(0), 1);
         Due.is("of two 1", two.ask(1), 1);

@@ -25,6 +25,18 @@ public final class SharesTest {
         Due.is("value(5)", y.value(5), 2);
         Due.is("value(6)", y.value(6), 0);
         Due.is("value(7) of some", y.value(7), 2);
+        y.steel(0, 99);
+        y.steel(1, 99);
+        Due.is("value(7) of the braver", y.value(7), 0);
+        // one alone is as loud as may be: whoever comes with it adds nothing
+        for (int b = 0; b < 5; b++) {
+            TownBand one = Due.told("cock 1 0;cock 1 0;cock 1 0;cock 1 0;cock 1 0;robber 8;");
+            one.alter(b, 2, 9);
+            one.alter(b, 1, 9);
+            for (int some = 0; some < 32; some++) {
+                Due.is("value of those with " + b, one.value(some), some >> b & 1);
+            }
+        }
         TownBand five = Due.told("ass 9 1;ass 9 1;ass 9 1;ass 9 1;ass 9 1;robber 2;");
         Due.is("value(31)", five.value(31), 1);
         Due.is("value(32)", five.value(32), Due.BAD);

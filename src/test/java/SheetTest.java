@@ -26,6 +26,8 @@ public final class SheetTest {
         Due.is("refused", x.sheet(0, 1, -1), -14);
         Due.is("it stays", x.count(3), 40);
         Due.is("sheet(0, 2, 0)", x.sheet(0, 2, 0), 1);
+        Due.is("sheet(3, 2, 1)", x.sheet(3, 2, 1), 1);
+        Due.is("lay(3, 0, 1)", x.lay(3, 0, 1), 1);
         Due.is("anew", x.count(3), 0);
     }
 

@@ -153,6 +153,8 @@ public final class StateTest {
         Due.is("at(1, 2)", x.at(1, 2), 3);
         Due.is("beast(3, 6)", x.beast(3, 6), 2);
         Due.is("swap(3, 1)", x.swap(3, 1), 1);
+        Due.is("swap(1, 0)", x.swap(1, 0), 0);
+        Due.is("at(1, 0)", x.at(1, 0), 2);
     }
 
     private static void images() {
@@ -218,6 +220,10 @@ public final class StateTest {
         Due.is("count(3) full", x.count(3), 40);
         Due.is("count(4)", x.count(4), 20);
         Due.is("count(5)", x.count(5), 134);
+        Due.feed(x, "cat 2 1;robber 8;");
+        x.text();
+        Due.is("count(4) of fewer", x.count(4), 2);
+        Due.is("count(5) of fewer", x.count(5), 8);
         TownBand none = new TownBand();
         Due.is("count(4) of none", none.count(4), 0);
         Due.is("count(5) of none", none.count(5), 0);

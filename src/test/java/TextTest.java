@@ -11,6 +11,8 @@ public final class TextTest {
         flawsOfTooMany();
         flawsBehindAll();
         flawsByOrder();
+        fullTapes();
+        bytesLeftBehind();
         whatATextChanges();
         Due.finish();
     }
@@ -104,6 +106,7 @@ public final class TextTest {
         flaw(":", 0, 1);
         flaw("goose 1 1;", 0, 2);
         flaw("cats 1 1;", 0, 2);
+        flaw("bat 1 1;", 0, 2);
         flaw("ca 1 1;", 0, 2);
         flaw("catcat 1 1;", 0, 2);
         flaw("bed 0;", 0, 2);
@@ -183,6 +186,42 @@ public final class TextTest {
         flaw("cat 1 1 !", 8, 1);
         flaw("cat 123", 4, 1);
         flaw("tower 3;cat 1 1", 15, 2);
+    }
+
+    private static void fullTapes() {
+        String ends = "cat 1 1;";
+        String[] last = {"a", "1", " ", ";", "!"};
+        int[] answers = {-169, -169, 1, -169, -169};
+        int[] faults = {2, 2, 0, 2, 1};
+        for (int i = 0; i < last.length; i++) {
+            TownBand x = new TownBand();
+            Due.feed(x, ends + " ".repeat(160 - ends.length() - 1) + last[i]);
+            Due.is("full", x.count(2), 160);
+            Due.is("full text", x.text(), answers[i]);
+            Due.is("full text: fault", x.fault(), faults[i]);
+        }
+        TownBand y = new TownBand();
+        Due.feed(y, " ".repeat(154) + "robber");
+        Due.is("a name at the end", y.text(), -170);
+        Due.feed(y, " ".repeat(151) + "robber 12");
+        Due.is("a number at the end", y.text(), -170);
+        Due.feed(y, " ".repeat(150) + "robber 12;");
+        Due.is("a line at the end", y.text(), 1);
+        Due.is("its robber", y.robber(0), 12);
+    }
+
+    private static void bytesLeftBehind() {
+        TownBand x = new TownBand();
+        Due.feed(x, "robber 12;");
+        x.end(8);
+        Due.is("12 is cut to 1", x.text(), -18);
+        Due.is("12 is cut to 1: fault", x.fault(), 2);
+        Due.feed(x, "scouts");
+        x.end(5);
+        Due.is("scouts is cut to scout", x.text(), -15);
+        Due.feed(x, "scout 7;    ");
+        x.end(8);
+        Due.is("blanks are cut", x.text(), 1);
     }
 
     private static void whatATextChanges() {
