@@ -549,10 +549,11 @@ public final class TownBand {
         }
         Sheet from = sheets[k];
         int before = band.height;
-        int found = from.faultAs(lane);
+        // The machine can refuse only what is read of it: where n is 0, nothing is.
+        int found = NO_FAULT;
         int climbed = 0;
         for (int i = 0; i < n && found == NO_FAULT; i++) {
-            found = from.faultAt(f + i);
+            found = from.faultAs(lane, f + i);
             if (found == NO_FAULT) {
                 if (mount(from.cells[f + i]) < 0) {
                     band.height = before;
@@ -1249,9 +1250,9 @@ public final class TownBand {
             }
         }
 
-        /** Nothing may be taken as of any lane: the machine lets null pass a cast. */
-        private int faultAs(int asLane) {
-            return lane == NOTHING || lane == asLane ? NO_FAULT : CAST_FAULT;
+        /** The fault of cell i, if the sheet is taken as of a lane: nothing passes that, as null passes a cast. */
+        private int faultAs(int asLane, int i) {
+            return lane == NOTHING || lane == asLane ? faultAt(i) : CAST_FAULT;
         }
 
         private int faultAt(int i) {

@@ -991,11 +991,8 @@ public final class RandomRunsTest {
             int climbed = 0;
             int found = 0;
             try {
-                byte[] bytes = lane == 0 ? (byte[]) sheets[k] : null;
-                short[] shorts = lane == 1 ? (short[]) sheets[k] : null;
-                int[] ints = lane == 2 ? (int[]) sheets[k] : null;
                 for (int i = 0; i < n; i++) {
-                    int b = lane == 0 ? bytes[f + i] : lane == 1 ? shorts[f + i] : ints[f + i];
+                    int b = cell(sheets[k], lane, f + i);
                     if (climb(b) < 0) {
                         tower = before;
                         return -20 - i;
@@ -1011,6 +1008,10 @@ public final class RandomRunsTest {
             }
             torn = found;
             return climbed;
+        }
+
+        private static int cell(Object sheet, int lane, int i) {
+            return lane == 0 ? ((byte[]) sheet)[i] : lane == 1 ? ((short[]) sheet)[i] : ((int[]) sheet)[i];
         }
 
         int count(int what) {

@@ -126,17 +126,29 @@ public final class SheetTest {
         Due.is("torn()", x.torn(), 0);
     }
 
+    /** Where n is 0 there is nothing that the machine refuses: torn() is 0, whatever it was. */
     private static void nothingRead() {
         TownBand x = Due.told("ass 9 1;");
         x.sheet(0, 1, 1);
+        x.sheet(2, 0, 0);
+        noneOf(x, "of cells that are there", 0, 1, 0);
+        int[] places = {-1, 1, 9, Integer.MAX_VALUE, Integer.MIN_VALUE};
+        for (int f : places) {
+            noneOf(x, "of no such cell " + f, 0, 1, f);
+            noneOf(x, "of another lane, no such cell " + f, 0, 2, f);
+        }
+        noneOf(x, "of another lane", 0, 0, 0);
+        noneOf(x, "of no cells", 2, 0, 0);
+        noneOf(x, "of no cells of another lane", 2, 1, 0);
+        for (int lane = 0; lane < 3; lane++) {
+            noneOf(x, "of nothing as of lane " + lane, 3, lane, 0);
+        }
+    }
+
+    private static void noneOf(TownBand x, String of, int k, int lane, int f) {
         x.read(0, 1, 1, 1);
-        Due.is("torn", x.torn(), 2);
-        Due.is("no beasts of no such cell", x.read(0, 1, 9, 0), 0);
-        Due.is("no fault", x.torn(), 0);
-        // the sheet is taken as of a lane first; the machine takes nothing as of any
-        Due.is("no beasts of another lane", x.read(0, 0, 0, 0), 0);
-        Due.is("CAST", x.torn(), 3);
-        Due.is("no beasts of nothing", x.read(1, 0, 0, 0), 0);
-        Due.is("no fault of nothing", x.torn(), 0);
+        Due.is("torn ahead of none " + of, x.torn(), 2);
+        Due.is("none " + of, x.read(k, lane, f, 0), 0);
+        Due.is("no fault " + of, x.torn(), 0);
     }
 }
