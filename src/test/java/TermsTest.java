@@ -6,6 +6,24 @@ public final class TermsTest {
         Due.runAll(TermsTest.class);
     }
 
+    static void all_atMost512Calls() {
+        Due.says("What it is", "An object is used for at most 512 calls after it has been made; "
+            + "what later calls answer is free.");
+        TownBand x = new TownBand();
+        String text = "ass 1 1;ass 1 2;ass 1 3;ass 1 4;ass 1 5;tower 4;robber 9;";
+        Due.feed(x, text);
+        Due.is("text", x.text(), 7);
+        for (int call = text.length() + 2; call <= 512; call++) {
+            Due.is("call " + call, call % 2 == 0 ? x.towers() : x.climb(4), call % 2 == 0 ? 326 : Due.STATE);
+        }
+        // what these answer is free, but they do answer
+        for (int call = 513; call < 2000; call++) {
+            x.feed(' ');
+            x.see(1, 1);
+            x.ask(0);
+        }
+    }
+
     // ---- the first block: what there is
 
     static void terms_answersTheFirstThatFits() {
