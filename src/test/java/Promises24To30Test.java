@@ -58,8 +58,10 @@ public final class Promises24To30Test {
         beds(Due.told("cock 1 1;cat 1 1;ass 1 1;scout 2;"), 9, 1, 2, 0);
         // by 3 both are met ahead of the ass: all
         beds(Due.told("cock 1 1;cat 1 1;ass 1 1;scout 3;"), 10, 0, 1, 2);
-        TownBand x = Due.told("cock 1 1;ass 1 1;scout 0;");
-        x.beds(0);
+        TownBand x = Due.told("cock 1 1;ass 1 1;scout 40;");
+        beds(x, 8, 0, 1);
+        x.scout(0);
+        beds(x, 7, 1, 0);
         Due.is("BEDS stay", x.at(1, 0), 0);
     }
 
@@ -122,6 +124,18 @@ public final class Promises24To30Test {
         Due.is("all", x.value(31), 4);
         Due.is("of a new object", new TownBand().value(0), 0);
         Due.is("no ROBBERS", Due.told(ASSES).value(31), 0);
+    }
+
+    static void promise27_someOfThese() {
+        Due.says("Promise 27", "VALUE of some BEASTS (bits).");
+        // of three cocks of 1 two stand: the silent one is left out, or nobody flees
+        for (int silent = 0; silent < 3; silent++) {
+            TownBand x = Due.told("cock 1 9;cock 1 9;cock 1 9;robber 26;");
+            x.alter(silent, 2, 0);
+            for (int some = 0; some < 8; some++) {
+                Due.is("value(" + some + ") without " + silent, x.value(some), (some | 1 << silent) == 7 ? 1 : 0);
+            }
+        }
     }
 
     static void promise27_bad() {

@@ -200,6 +200,7 @@ public final class TermsOfTextTest {
         for (String name : names) {
             Due.flaw(name + "s 1 1;", 0, 2);
             Due.flaw(name.substring(1) + " 1 1;", 0, 2);
+            Due.flaw("z" + name.substring(1) + " 1 1;", 0, 2);
             Due.flaw(name.substring(0, name.length() - 1) + " 1 1;", 0, 2);
             Due.flaw(name.substring(0, name.length() - 1) + "z 1 1;", 0, 2);
         }
