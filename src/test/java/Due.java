@@ -4,7 +4,7 @@ import java.util.Arrays;
 import java.util.Comparator;
 
 /** What the project's tests share: an answer beside the one that is due, sentences, and texts fed whole. */
-final class Due {
+public final class Due {
     static final int BAD = -1, STATE = -2, FULL = -3, NONE = -4;
     static final int LEAST = Integer.MIN_VALUE, MOST = Integer.MAX_VALUE;
     private static int wrong = 0;
@@ -14,7 +14,7 @@ final class Due {
     private Due() {
     }
 
-    static void is(String call, long got, long want) {
+    public static void is(String call, long got, long want) {
         looked++;
         if (got != want) {
             wrong++;

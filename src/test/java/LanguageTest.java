@@ -1,6 +1,10 @@
 import java.io.IOException;
 import java.nio.file.Files;
 import java.nio.file.Paths;
+import java.util.Map;
+import java.util.Set;
+import java.util.TreeMap;
+import java.util.TreeSet;
 import java.util.regex.Matcher;
 import java.util.regex.Pattern;
 
@@ -21,7 +25,56 @@ public final class LanguageTest {
             Due.isTrue("ruled out: " + rule, !m.find());
         }
         methods(code);
+        classes(code);
+        Map<String, Set<String>> calls = calls(code);
+        for (String name : calls.keySet()) {
+            Due.isTrue(name + "() goes at most eight deep", depth(calls, name, new TreeSet<>()) <= 8);
+        }
         Due.finish();
+    }
+
+    /** At most twelve classes, each of at most twenty fields beside its constants. */
+    private static void classes(String code) {
+        String[] parts = code.split("\\bclass\\b");
+        Due.isTrue("few classes", parts.length - 1 <= 12);
+        for (int i = 1; i < parts.length; i++) {
+            Matcher field = Pattern.compile("(?m)^ +private (?!static)[^(]*?( = .*)?;$").matcher(parts[i]);
+            int fields = 0;
+            while (field.find()) {
+                fields++;
+            }
+            Due.isTrue("few fields:" + parts[i].substring(0, 20), fields <= 20);
+        }
+    }
+
+    /** Which methods each method names; the names of all methods differ, so a name tells which one is meant. */
+    private static Map<String, Set<String>> calls(String code) {
+        Map<String, Set<String>> calls = new TreeMap<>();
+        Matcher head = Pattern.compile("(?m)^( +)(?:public|private) [^=;\\n]*?(\\w+)\\([^)]*\\) \\{$").matcher(code);
+        while (head.find()) {
+            int end = code.indexOf("\n" + head.group(1) + "}", head.end());
+            Set<String> named = new TreeSet<>();
+            Matcher call = Pattern.compile("(\\w+)\\(").matcher(code.substring(head.end(), end));
+            while (call.find()) {
+                named.add(call.group(1));
+            }
+            Due.isTrue("one method alone bears the name " + head.group(2), calls.put(head.group(2), named) == null);
+        }
+        Due.isTrue("methods are found", calls.size() > 41);
+        return calls;
+    }
+
+    /** How many calls stand open at once, at most; a method that calls itself counts once. */
+    private static int depth(Map<String, Set<String>> calls, String name, Set<String> open) {
+        int deepest = 0;
+        open.add(name);
+        for (String next : calls.get(name)) {
+            if (calls.containsKey(next) && !open.contains(next)) {
+                deepest = Math.max(deepest, depth(calls, next, open));
+            }
+        }
+        open.remove(name);
+        return deepest + 1;
     }
 
     /** No method of more than sixty lines, nor of more than seven parameters. */
